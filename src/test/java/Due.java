@@ -1,0 +1,27 @@
+/** Counts and prints the answers that are not the ones due. */
+final class Due {
+    private static int asked = 0;
+    private static int wrong = 0;
+
+    private Due() {
+    }
+
+    static void due(String call, long got, long want) {
+        asked++;
+        if (got != want) {
+            wrong++;
+            System.out.println(call + " answered " + got + ", due is " + want);
+        }
+    }
+
+    static boolean anyWrong() {
+        return wrong != 0;
+    }
+
+    static void end() {
+        System.out.println(asked + " answers, " + wrong + " not as due");
+        if (wrong != 0) {
+            System.exit(1);
+        }
+    }
+}
