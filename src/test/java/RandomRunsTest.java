@@ -1,6 +1,6 @@
 /** Runs of chance calls (the same ones each time) on a SumSmith and on a PlainSmith: all answers must be alike. */
 public final class RandomRunsTest {
-    private static final int RUNS = 300, CALLS = 400;
+    private static final int RUNS = 60, CALLS = 400;
 
     private long seed;
     private final SumSmith x = new SumSmith();
