@@ -200,6 +200,10 @@ public final class DividedTest {
         x.put(0);
         Due.due("places that are there again", x.aim(0, 3), 4);
         Due.due("the row is as it was", x.at(0) + x.at(1), 0);
+        x.bind();
+        x.free(8);
+        x.cut(1);
+        Due.due("the first place that is no more", x.aim(0, 3), 0);
     }
 
     private static void manyWays() {
@@ -275,6 +279,17 @@ public final class DividedTest {
         y.put(0);
         Due.due("can't be mended", y.mend(0, 0x81), SumSmith.NONE);
         Due.due("and is not", y.at(0), 0);
+        y.put(0);
+        y.mend(0, 0);
+        Due.due("nothing to turn but bits of s", y.mend(0, 1), 1000);
+        y.cut(1);
+        Due.due("a place that is no more", y.mend(0, y.syndrome(0, 0, 2)), SumSmith.NONE);
+        SumSmith full = smith(32, 0x04C11DB7L, false, true);
+        for (int i = 0; i < 64; i++) {
+            full.put(i);
+        }
+        Due.due("64 bytes, can't be mended", full.mend(0, full.sum(0) ^ 5), SumSmith.NONE);
+        Due.due("64 bytes, the last place", full.mend(0, full.sum(0) ^ 0x04C11DB7L), 512);
         SumSmith z = smith(32, 0x04C11DB7L, true, true);
         z.put(1);
         Due.due("the highest bit of 32", z.mend(0, z.sum(0) ^ 1L << 31), 1031);

@@ -77,6 +77,10 @@ public final class SlipsTest {
         first(y, row(0, 128), row(128, 0));
         Due.due("up, down, down", y.sees(0, FLIP, 3, 2), 0);
         first(y, row(64, 64), row(128, 0));
+        SumSmith z = new SumSmith();
+        z.plain(96);
+        Due.due("up, down, up", z.sees(0, FLIP, 3, 1), 0);
+        first(z, row(64), row(160));
         y.divided(3, 4, 0, 0, false, false);
         Due.due("one bit that is lost", y.sees(1, FLIP, 1, 1), 1);
         y.divided(3, 0, 5, 5, false, false);
@@ -119,6 +123,11 @@ public final class SlipsTest {
         Due.due("modulo 7, ends of four", z.sees(4, BURST, 4, 1), 0);
         // with none between, 128 - 16 = 112 = 16 * 7
         first(z, row(16), row(128));
+        z.tell(1);
+        z.tell(0);
+        z.weighted(65536);
+        Due.due("a burst that has only the last places", z.sees(5, BURST, 8, 2), 0);
+        first(z, row(0, 0), row(0, 129));
     }
 
     private static void byteSlips() {
@@ -202,6 +211,20 @@ public final class SlipsTest {
         Due.due("signs(" + k + ", 2)", x.signs(k, 2), twins);
     }
 
+    private static void squaresThatFailInOneRow() {
+        SumSmith x = new SumSmith();
+        square(x, 2, "0001");
+        square(x, 3, "000022101");
+        square(x, 3, "011001000");
+        square(x, 3, "000012012");
+        square(x, 3, "011012022");
+        Due.due("singles fail in row 0", x.signs(0, 0), 0);
+        Due.due("swaps fail in row 0", x.signs(1, 1), 0);
+        Due.due("swaps fail in the last row", x.signs(2, 1), 0);
+        Due.due("twins fail in row 0", x.signs(3, 2), 0);
+        Due.due("twins fail in the last row", x.signs(4, 2), 0);
+    }
+
     private static void promise21() {
         SumSmith x = new SumSmith();
         square(x, 10, DAMM);
@@ -218,6 +241,7 @@ public final class SlipsTest {
         signsDue(x, 4, 0, 1, 1);
         // (s, a) is 2 s + 2 a modulo 3: swaps come to s + a + 2 b, twins to s
         signsDue(x, 5, 1, 1, 0);
+        squaresThatFailInOneRow();
         for (char digit : "572".toCharArray()) {
             x.put(digit - '0');
         }

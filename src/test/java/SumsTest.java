@@ -203,6 +203,10 @@ public final class SumsTest {
         x.tell(2);
         Due.due("a cell is not below q", x.square(2), SumSmith.NOT);
         Due.due("four are told yet", x.untell(), 4);
+        x.tell(2);
+        tellTo(x, 3, 1);
+        Due.due("the first cell is not below q", x.square(2), SumSmith.NOT);
+        x.untell();
         tellTo(x, 100, 9);
         Due.due("square(10)", x.square(10), 1);
         Due.due("kind", x.kind(1), 6);
