@@ -79,6 +79,7 @@ public final class SumSmith {
         if (isFull()) {
             return FULL;
         }
+
         int[] weights = Arrays.copyOf(told, toldCount);
         toldCount = 0;
         return keepSum(new Weighted(WEIGHTED, m, weights));
@@ -108,6 +109,7 @@ public final class SumSmith {
         if (isFull()) {
             return FULL;
         }
+
         int[] cells = Arrays.copyOf(told, toldCount);
         toldCount = 0;
         return keepSum(new Square(q, cells));
@@ -139,6 +141,7 @@ public final class SumSmith {
         if (!isByte(b)) {
             return OUTSIDE;
         }
+
         int was = row[i];
         row[i] = b;
         return was;
@@ -152,6 +155,7 @@ public final class SumSmith {
         if (!within(n, 0, rowLength)) {
             return OUTSIDE;
         }
+
         int gone = rowLength - n;
         rowLength = n;
         return gone;
@@ -272,6 +276,7 @@ public final class SumSmith {
         if (!within(n, 1, MOST_BYTES) || !within(place, 0, 8 * n - 1)) {
             return OUTSIDE;
         }
+
         int bit = bitOfPlace(place);
         return divided.changed(n, byteOfPlace(place), 0, bit);
     }
@@ -374,6 +379,7 @@ public final class SumSmith {
         if (!divided.holds(s)) {
             return OUTSIDE;
         }
+
         long wrong = divided.ofRow(row, rowLength) ^ s;
         if (wrong == 0) {
             return 0;
@@ -550,6 +556,7 @@ public final class SumSmith {
             this.modulus = modulus;
             this.weights = weights;
         }
+
         long ofRow(int[] bytes, int length) {
             long total = 0;
             for (int i = 0; i < length; i++) {
@@ -561,21 +568,27 @@ public final class SumSmith {
         private int weightAt(int i) {
             return weights[i % weights.length];
         }
+
         boolean holds(long s) {
             return s >= 0 && s < modulus;
         }
+
         long merged(long x, long y) {
             return (x + y) % modulus;
         }
+
         long changed(int n, int i, int a, int b) {
             return Math.floorMod((long) weightAt(i) * (b - a), (long) modulus);
         }
+
         long carried(long s, int bytes) {
             return s;
         }
+
         boolean canJoinBehind(int n) {
             return n % weights.length == 0;
         }
+
         boolean canDropFirst() {
             return weights.length == 1;
         }
@@ -588,6 +601,7 @@ public final class SumSmith {
             super(TWOFOLD);
             this.modulus = modulus;
         }
+
         long ofRow(int[] bytes, int length) {
             long a = 0;
             long b = 0;
@@ -609,16 +623,20 @@ public final class SumSmith {
         private static long partB(long s) {
             return s >> 16;
         }
+
         boolean holds(long s) {
             return s >= 0 && partA(s) < modulus && partB(s) < modulus;
         }
+
         long merged(long x, long y) {
             return packed((partA(x) + partA(y)) % modulus, (partB(x) + partB(y)) % modulus);
         }
+
         long changed(int n, int i, int a, int b) {
             long more = b - a;
             return packed(Math.floorMod(more, (long) modulus), Math.floorMod((n - i) * more, (long) modulus));
         }
+
         long carried(long s, int bytes) {
             return packed(partA(s), (partB(s) + bytes * partA(s)) % modulus);
         }
@@ -633,6 +651,7 @@ public final class SumSmith {
             this.width = width;
             this.turn = turn;
         }
+
         long ofRow(int[] bytes, int length) {
             long s = 0;
             for (int i = 0; i < length; i++) {
@@ -640,19 +659,24 @@ public final class SumSmith {
             }
             return s;
         }
+
         boolean holds(long s) {
             return fits(s, width);
         }
+
         long merged(long x, long y) {
             return x ^ y;
         }
+
         long changed(int n, int i, int a, int b) {
             return carried(a ^ b, n - 1 - i);
         }
+
         long carried(long s, int bytes) {
             int by = turn * bytes % width;
             return (s << by | s >>> (width - by)) & maskOf(width);
         }
+
         boolean isByExclusiveOr() {
             return true;
         }
@@ -674,6 +698,7 @@ public final class SumSmith {
             this.finish = finish;
             this.low = low;
         }
+
         long ofRow(int[] bytes, int length) {
             long s = begin;
             for (int i = 0; i < length; i++) {
@@ -695,12 +720,15 @@ public final class SumSmith {
             long twice = s << 1 & maskOf(width);
             return (s >> (width - 1) & 1) == 1 ? twice ^ polynomial : twice;
         }
+
         boolean holds(long s) {
             return fits(s, width);
         }
+
         long merged(long x, long y) {
             return x ^ y;
         }
+
         long changed(int n, int i, int a, int b) {
             return afterZeros(afterByte(0, a ^ b), n - 1 - i);
         }
@@ -722,6 +750,7 @@ public final class SumSmith {
         long withoutLeadingZero(long s, int n) {
             return s ^ afterZeros(afterByte(begin, 0) ^ begin, n - 1);
         }
+
         boolean isByExclusiveOr() {
             return true;
         }
@@ -747,6 +776,7 @@ public final class SumSmith {
             this.size = size;
             this.cells = cells;
         }
+
         long ofRow(int[] bytes, int length) {
             int s = 0;
             for (int i = 0; i < length; i++) {
