@@ -79,7 +79,6 @@ public final class SumSmith {
         if (isFull()) {
             return FULL;
         }
-
         int[] weights = Arrays.copyOf(told, toldCount);
         toldCount = 0;
         return keepSum(new Weighted(WEIGHTED, m, weights));
@@ -109,7 +108,6 @@ public final class SumSmith {
         if (isFull()) {
             return FULL;
         }
-
         int[] cells = Arrays.copyOf(told, toldCount);
         toldCount = 0;
         return keepSum(new Square(q, cells));
@@ -141,7 +139,6 @@ public final class SumSmith {
         if (!isByte(b)) {
             return OUTSIDE;
         }
-
         int was = row[i];
         row[i] = b;
         return was;
@@ -155,7 +152,6 @@ public final class SumSmith {
         if (!within(n, 0, rowLength)) {
             return OUTSIDE;
         }
-
         int gone = rowLength - n;
         rowLength = n;
         return gone;
@@ -276,7 +272,6 @@ public final class SumSmith {
         if (!within(n, 1, MOST_BYTES) || !within(place, 0, 8 * n - 1)) {
             return OUTSIDE;
         }
-
         int bit = bitOfPlace(place);
         return divided.changed(n, byteOfPlace(place), 0, bit);
     }
@@ -379,7 +374,6 @@ public final class SumSmith {
         if (!divided.holds(s)) {
             return OUTSIDE;
         }
-
         long wrong = divided.ofRow(row, rowLength) ^ s;
         if (wrong == 0) {
             return 0;
