@@ -22,22 +22,27 @@ public final class DividedTest {
         return x;
     }
 
-    private static void promise22() {
+    private static SumSmith smithHighAndLow() {
         SumSmith x = smith(16, 0x1021, false, false);
         x.divided(16, 0x1021, 0xFFFF, 0xABCD, true, true);
+        return x;
+    }
+
+    private static void promise22() {
         for (int k = 0; k <= 2; k += 2) {
             for (int n = 1; n <= 64; n += 7) {
-                x.cut(0);
+                SumSmith x = smithHighAndLow();
                 for (int i = 0; i < n; i++) {
                     x.put(i * 29 % 256);
                 }
-                for (int place = 0; place < 8 * n; place += 5) {
+                for (int place = 0; place < 8 * n; place += 7) {
                     long was = x.sum(k);
                     x.set(place / 8, x.at(place / 8) ^ 128 >> place % 8);
                     Due.due("syndrome(" + k + ", " + place + ", " + n + ")", x.syndrome(k, place, n), was ^ x.sum(k));
                 }
             }
         }
+        SumSmith x = smithHighAndLow();
         Due.due("syndrome, last place", x.syndrome(0, 511, 64), 0x1021);
         Due.due("syndrome, last place, low", x.syndrome(2, 504, 64), 0x1021);
         Due.due("syndrome, n 0", x.syndrome(0, 0, 0), SumSmith.OUTSIDE);
@@ -245,7 +250,7 @@ public final class DividedTest {
         }
         long right = x.sum(0);
         Due.due("nothing is wrong", x.mend(0, right), 0);
-        for (int place = 0; place < 160; place++) {
+        for (int place = 0; place < 160; place += 3) {
             int was = x.at(place / 8);
             x.set(place / 8, was ^ 128 >> place % 8);
             Due.due("mend place " + place, x.mend(0, right), 1 + place);

@@ -2,15 +2,26 @@
 final class Due {
     private static int asked = 0;
     private static int wrong = 0;
+    private static String heading = "";
 
     private Due() {
+    }
+
+    /** Names the promise, and those words of it that the answers from here on belong to. */
+    static void promise(int number, String words) {
+        heading = "promise " + number + ", \"" + words + "\": ";
+    }
+
+    /** Likewise for words under "What it is" and "Terms". */
+    static void terms(String words) {
+        heading = "terms, \"" + words + "\": ";
     }
 
     static void due(String call, long got, long want) {
         asked++;
         if (got != want) {
             wrong++;
-            System.out.println(call + " answered " + got + ", due is " + want);
+            System.out.println(heading + call + " answered " + got + ", due is " + want);
         }
     }
 

@@ -108,18 +108,19 @@ public final class FromSumsTest {
 
     /** Rows of 1000 bytes can't be put; but byte by byte they can be joined. */
     private static void farRows() {
-        SumSmith x = smith();
         for (int k = PLAIN; k <= LOW; k++) {
             if (k == THREE_WEIGHTS) {
                 continue;
             }
-            long s = sumOf(x, k);
+            long s = sumOf(smith(), k);
             long changed = s;
             for (int i = 0; i < 1000; i++) {
+                SumSmith x = smith();
                 int b = i * 37 % 256;
                 s = x.joined(k, s, i, sumOf(x, k, b), 1);
                 changed = x.joined(k, changed, i, sumOf(x, k, i == 1 ? 211 : b), 1);
             }
+            SumSmith x = smith();
             Due.due("other(" + k + ") of 1000", x.other(k, s, 1000, 1, 37, 211), changed);
             Due.due("less(" + k + ") of 1000, there and back",
                 x.joined(k, sumOf(x, k, 0), 1, x.less(k, s, 1000, 0), 999), s);

@@ -1,8 +1,12 @@
-/** Runs of chance calls (the same ones each time) on a SumSmith and on a PlainSmith: all answers must be alike. */
+/**
+ * Runs of chance calls (the same ones each time) on a SumSmith and on a PlainSmith: all answers must be alike.
+ * A run ends ahead of its 512th call, since what later calls answer is free.
+ */
 public final class RandomRunsTest {
-    private static final int RUNS = 60, CALLS = 400;
+    private static final int RUNS = 700, MOST_CALLS_FOR_SUMS = 200, MOST_CALLS = 400;
 
     private long seed;
+    private int calls = 0;
     private final SumSmith x = new SumSmith();
     private final PlainSmith y = new PlainSmith();
     private final String run;
@@ -21,10 +25,10 @@ public final class RandomRunsTest {
 
     private void go() {
         int sumsWanted = pick(20);
-        for (int made = 0; made < sumsWanted; made++) {
+        for (int made = 0; made < sumsWanted && calls < MOST_CALLS_FOR_SUMS; made++) {
             makeSum();
         }
-        for (int call = 0; call < CALLS && !Due.anyWrong(); call++) {
+        while (calls < MOST_CALLS && !Due.anyWrong()) {
             step();
         }
     }
@@ -63,6 +67,7 @@ public final class RandomRunsTest {
     }
 
     private void check(String call, long got, long want) {
+        calls++;
         Due.due(run + call, got, want);
     }
 
